@@ -68,6 +68,7 @@ public final class FeltHarness {
         if (!text.isFine()) {
             return text.kind - 10;
         }
+        search.forget();
         inn.copyFrom(draft);
         rule.clear();
         lines.clear();
@@ -80,6 +81,7 @@ public final class FeltHarness {
     public int law(int n) throws IllegalArgumentException {
         needText(n, LAW_BYTES);
         text.begin(n);
+        search.forget();
         rule.read(text);
         return text.isFine() ? 1 : text.kind - 10;
     }
@@ -95,8 +97,10 @@ public final class FeltHarness {
         if (!text.isFine()) {
             return text.kind - 10;
         }
+        search.forget();
         shelf.keepWork(now);
-        plan.carryOut(now);
+        plan.prepare();
+        plan.runSteps(now, 0, plan.size, 0);
         refusedSteps = plan.refused;
         return plan.done;
     }
@@ -116,6 +120,7 @@ public final class FeltHarness {
         if (shelf.works == 0) {
             return -1;
         }
+        search.forget();
         shelf.takeWork(now);
         refusedSteps = 0;
         return shelf.works;
@@ -219,15 +224,13 @@ public final class FeltHarness {
     public int team(int stage, int what) throws NoSuchElementException, IllegalArgumentException {
         needStage(stage);
         need(within(what, 0, 1));
-        search.findBest(now, stage);
-        return what == 0 ? search.bestStrength : search.bestTilt;
+        return what == 0 ? search.strengthFor(now, stage) : search.tiltFor(now, stage);
     }
 
     public int stands(int stage, int place) throws NoSuchElementException, IllegalArgumentException {
         needStage(stage);
         need(isPlace(place));
-        search.findBest(now, stage);
-        return search.bestAt(place);
+        return search.whoFor(now, stage, place);
     }
 
     public int stalls() {
@@ -320,11 +323,12 @@ public final class FeltHarness {
         if ((feelings >> feeling & 1) == 0) {
             return 0;
         }
+        // A bound above how TIRED this one is would give it no more.
         int bound = 0;
-        while (bound < MOST_TIRED && oatsWithin(feelings, bound + 1) <= n) {
+        while (bound < now.tiredOf(feeling) && oatsWithin(feelings, bound + 1) <= n) {
             bound++;
         }
-        return Math.min(now.tiredOf(feeling), bound);
+        return bound;
     }
 
     public int weariest(int what) throws IllegalArgumentException {
@@ -469,6 +473,7 @@ public final class FeltHarness {
         if (shelf.images == 0) {
             return -1;
         }
+        search.forget();
         shelf.takeImage(now);
         refusedSteps = 0;
         return shelf.images;
@@ -581,6 +586,7 @@ public final class FeltHarness {
             changeTeam();
             if (drawn(16) < q) {
                 if (trial.behind() >= inn.stages) {
+                    // With no STAGE behind there is nothing to go home from, and this changes nothing.
                     trial.goHome();
                 } else if (trial.canDrive()) {
                     trial.driveOver(trial.behind());
@@ -653,10 +659,10 @@ public final class FeltHarness {
 
         /** The next byte behind blanks; NONE at the end. */
         int peek() {
-            while (next < end && byteAt(next) == ' ') {
+            while (next < end && next < bytes.length && bytes[next] == ' ') {
                 next++;
             }
-            return byteAt(next);
+            return next < end && next < bytes.length ? bytes[next] & 255 : NONE;
         }
 
         void skip() {
@@ -1040,8 +1046,8 @@ public final class FeltHarness {
                 case TIMES: return a * b;
                 case BY: return b == 0 ? 0 : a / b;
                 case LEFT: return b == 0 ? 0 : a % b;
-                case LEAST: return Math.min(a, b);
-                default: return Math.max(a, b);
+                case LEAST: return a < b ? a : b;
+                default: return a > b ? a : b;
             }
         }
     }
@@ -1174,11 +1180,10 @@ public final class FeltHarness {
             ends[own] = size;
         }
 
-        void carryOut(Coach coach) {
+        void prepare() {
             begun = 0;
             done = 0;
             refused = 0;
-            runSteps(coach, 0, size, 0);
         }
 
         private void runSteps(Coach coach, int from, int to, int depth) {
@@ -1190,7 +1195,7 @@ public final class FeltHarness {
                 begun++;
                 if (word[at] == AGAIN) {
                     runAgain(coach, at, depth);
-                } else if (isDone(coach, word[at], one[at], two[at])) {
+                } else if (coach.isDone(word[at], one[at], two[at])) {
                     done++;
                 } else {
                     refused++;
@@ -1205,18 +1210,6 @@ public final class FeltHarness {
             }
             for (int i = 0; i < one[at] && begun < BEGUN_MOST; i++) {
                 runSteps(coach, at + 1, ends[at], depth + 1);
-            }
-        }
-
-        private static boolean isDone(Coach coach, int which, int f, int n) {
-            switch (which) {
-                case PUT: return coach.tryPut(f, n);
-                case OUT: return coach.tryOut(f);
-                case DRAW: return coach.tryDraw(f, n);
-                case DRIVE: return coach.tryDrive();
-                case HOME: return coach.goHome();
-                case REST: return coach.tryRest();
-                default: return false;
             }
         }
     }
@@ -1316,7 +1309,7 @@ public final class FeltHarness {
 
         int whoIsAt(int place) {
             for (int f = 0; f < inn.feelings; f++) {
-                if (hasPlace(f) && placeOf(f) == place) {
+                if (placeOf(f) == place) {
                     return f;
                 }
             }
@@ -1325,8 +1318,8 @@ public final class FeltHarness {
 
         int teamBits() {
             int bits = 0;
-            for (int f = 0; f < inn.feelings; f++) {
-                if (hasPlace(f)) {
+            for (int f = 0; f < inn.feelings && f < FEELINGS; f++) {
+                if (row[PLACE_AT + f] != NONE) {
                     bits |= 1 << f;
                 }
             }
@@ -1373,8 +1366,14 @@ public final class FeltHarness {
 
         int outcome(int s) {
             weigh();
-            return inn.leastStrength(s) > near + off ? STUCK
-                    : Math.abs(near - off) + inn.turnOf(s) > inn.bears ? SPILT : THROUGH;
+            return outcomeAsWeighed(s);
+        }
+
+        private int outcomeAsWeighed(int s) {
+            if (near + off < inn.leastStrength(s)) {
+                return STUCK;
+            }
+            return Math.abs(near - off) + inn.turnOf(s) > inn.bears ? SPILT : THROUGH;
         }
 
         boolean canPut(int f, int place) {
@@ -1386,52 +1385,36 @@ public final class FeltHarness {
             return teamBits() != 0 && behind() < inn.stages;
         }
 
-        boolean tryPut(int f, int place) {
-            if (!canPut(f, place)) {
-                return false;
+        /** Does a STEP; false: it is REFUSED. */
+        boolean isDone(int step, int f, int n) {
+            boolean can = canDo(step, f, n);
+            if (can) {
+                switch (step) {
+                    case Plan.PUT: setPlace(f, n); break;
+                    case Plan.OUT: takeOut(f); break;
+                    case Plan.DRAW: setTight(f, n); break;
+                    case Plan.DRIVE: driveOver(behind()); break;
+                    case Plan.HOME: goHome(); break;
+                    default: restOneDay(); break;
+                }
             }
-            setPlace(f, place);
-            return true;
+            return can;
         }
 
-        boolean tryOut(int f) {
-            if (!hasPlace(f)) {
-                return false;
+        private boolean canDo(int step, int f, int n) {
+            switch (step) {
+                case Plan.PUT: return canPut(f, n);
+                case Plan.OUT: return hasPlace(f);
+                case Plan.DRAW: return tightOf(f) != n;
+                case Plan.DRIVE: return canDrive();
+                case Plan.HOME: return behind() != 0;
+                case Plan.REST: return day() < LAST_DAY;
+                default: return false;
             }
-            takeOut(f);
-            return true;
         }
 
-        boolean tryDraw(int f, int tight) {
-            if (tightOf(f) == tight) {
-                return false;
-            }
-            setTight(f, tight);
-            return true;
-        }
-
-        boolean tryDrive() {
-            if (!canDrive()) {
-                return false;
-            }
-            driveOver(behind());
-            return true;
-        }
-
-        boolean goHome() {
-            if (behind() == 0) {
-                return false;
-            }
+        void goHome() {
             row[BEHIND_AT] = 0;
-            return true;
-        }
-
-        boolean tryRest() {
-            if (day() >= LAST_DAY) {
-                return false;
-            }
-            restOneDay();
-            return true;
         }
 
         /** What is asked ahead goes on beyond the last DAY, so no DAY is refused here. */
@@ -1447,7 +1430,8 @@ public final class FeltHarness {
         }
 
         void driveOver(int s) {
-            int how = outcome(s);
+            weigh();
+            int how = outcomeAsWeighed(s);
             int strength = near + off;
             if (how == STUCK) {
                 tireTeam(2);
@@ -1542,55 +1526,74 @@ public final class FeltHarness {
         }
     }
 
-    /** TEAM of a STAGE: all ways are gone through in their order, so the first of alike ones stays. */
+    /** TEAM of each STAGE: all ways are gone through in their order, so the first of alike ones stays. */
     private static final class Search {
         private final int[] forces = new int[PLACES * PLACES * FEELINGS];
         private final int[] taken = new int[PLACES];
-        private final int[] best = new int[PLACES];
-        private int goal;
-        private int bestStrength;
-        private int bestTilt;
+        private final int[] best = new int[STAGES * PLACES];
+        private final int[] bestStrength = new int[STAGES];
+        private final int[] bestTilt = new int[STAGES];
+        private int known;
 
-        void findBest(Coach coach, int stage) {
-            goal = stage;
-            bestStrength = NONE;
-            bestTilt = NONE;
+        /** Whatever changes the coach, the HOUSE or the LAW makes what was found worthless. */
+        void forget() {
+            known = 0;
+        }
+
+        int strengthFor(Coach coach, int stage) {
+            find(coach, stage);
+            return within(stage, 0, STAGES - 1) ? bestStrength[stage] : NONE;
+        }
+
+        int tiltFor(Coach coach, int stage) {
+            find(coach, stage);
+            return within(stage, 0, STAGES - 1) ? bestTilt[stage] : NONE;
+        }
+
+        int whoFor(Coach coach, int stage, int place) {
+            find(coach, stage);
+            return within(stage, 0, STAGES - 1) && isPlace(place) ? best[stage * PLACES + place] : NONE;
+        }
+
+        private void find(Coach coach, int stage) {
+            if (!within(stage, 0, STAGES - 1) || (known >> stage & 1) == 1) {
+                return;
+            }
+            known |= 1 << stage;
+            bestStrength[stage] = NONE;
+            bestTilt[stage] = NONE;
             for (int place = 0; place < PLACES; place++) {
-                best[place] = NONE;
+                best[stage * PLACES + place] = NONE;
                 for (int f = 0; f < FEELINGS; f++) {
                     for (int size = 1; size <= PLACES; size++) {
                         forces[forceIndex(f, place, size)] = coach.forceOf(f, place, size);
                     }
                 }
             }
-            fillFrom(coach.inn, 0, 0, 0);
-        }
-
-        int bestAt(int place) {
-            return isPlace(place) ? best[place] : NONE;
+            fillFrom(coach.inn, stage, 0, 0, 0);
         }
 
         private static int forceIndex(int f, int place, int size) {
             return ((size - 1 & 3) * PLACES + (place & 3)) * FEELINGS + (f & 7);
         }
 
-        private void fillFrom(House inn, int place, int team, int foes) {
+        private void fillFrom(House inn, int stage, int place, int team, int foes) {
             if (place < 0 || place >= PLACES) {
-                compare(inn, Integer.bitCount(team));
+                compare(inn, stage, Integer.bitCount(team));
                 return;
             }
             for (int f = 0; f < inn.feelings; f++) {
                 if (((team | foes) >> f & 1) == 0) {
                     taken[place] = f;
-                    fillFrom(inn, place + 1, team | 1 << f, foes | inn.foesOf(f));
+                    fillFrom(inn, stage, place + 1, team | 1 << f, foes | inn.foesOf(f));
                 }
             }
             taken[place] = NONE;
-            fillFrom(inn, place + 1, team, foes);
+            fillFrom(inn, stage, place + 1, team, foes);
         }
 
-        private void compare(House inn, int size) {
-            if (size == 0) {
+        private void compare(House inn, int stage, int size) {
+            if (size == 0 || !within(stage, 0, STAGES - 1)) {
                 return;
             }
             int strength = 0;
@@ -1603,13 +1606,13 @@ public final class FeltHarness {
                 }
             }
             int tilt = Math.abs(lean);
-            if (strength < inn.leastStrength(goal) || tilt + inn.turnOf(goal) > inn.bears) {
+            if (strength < bestStrength[stage] || strength == bestStrength[stage] && tilt >= bestTilt[stage]) {
                 return;
             }
-            if (strength > bestStrength || strength == bestStrength && tilt < bestTilt) {
-                bestStrength = strength;
-                bestTilt = tilt;
-                System.arraycopy(taken, 0, best, 0, PLACES);
+            if (strength >= inn.leastStrength(stage) && tilt + inn.turnOf(stage) <= inn.bears) {
+                bestStrength[stage] = strength;
+                bestTilt[stage] = tilt;
+                System.arraycopy(taken, 0, best, stage * PLACES, PLACES);
             }
         }
     }

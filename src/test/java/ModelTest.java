@@ -108,6 +108,16 @@ public final class ModelTest {
         }
     }
 
+    /** What is kept of an answer must not outlive a change. */
+    private void askTeam() {
+        if (below(4) == 0) {
+            int s = below(2) == 0 ? 0 : someStage();
+            int p = below(4);
+            same("team " + s, () -> x.team(s, 0), () -> m.team(s, 0));
+            same("stands " + s + " " + p, () -> x.stands(s, p), () -> m.stands(s, p));
+        }
+    }
+
     private void one(int which) {
         int a = below(2) == 0 ? below(2) : near(0, 1);
         int p = near(0, 3);
@@ -118,9 +128,9 @@ public final class ModelTest {
             case 1: case 2: case 3: tellLaw(); break;
             case 4: case 5: case 6: case 7: case 8: case 9: case 10: case 11: case 12: case 13: tellWork(); break;
             case 14: case 15: case 16: case 17: tellBook(); break;
-            case 18: case 19: same("undo", x::undo, m::undo); break;
+            case 18: case 19: same("undo", x::undo, m::undo); askTeam(); break;
             case 20: same("image", x::image, m::image); break;
-            case 21: if (below(2) == 0) { same("restore", x::restore, m::restore); } break;
+            case 21: if (below(2) == 0) { same("restore", x::restore, m::restore); askTeam(); } break;
             case 22: same("fault", x::fault, m::fault); break;
             case 23: case 24: { int w = near(0, 12); same("told " + w, () -> x.told(w), () -> m.told(w)); break; }
             case 25: case 26: { int w = near(0, 5);
@@ -265,6 +275,7 @@ public final class ModelTest {
         String text = worn(b.toString(), broken);
         int n = feed(text);
         same("house(" + n + ") of " + text, () -> x.house(n), () -> m.house(n));
+        askTeam();
         same("fault", x::fault, m::fault);
     }
 
@@ -300,6 +311,9 @@ public final class ModelTest {
         if (below(10) == 0) {
             int deep = 4 + below(5);
             text = "(".repeat(deep) + "least[1,2]" + ")".repeat(deep);
+            if (below(2) == 0) {
+                text = "least[".repeat(deep) + "day" + ",team]".repeat(deep);
+            }
         } else if (below(12) == 0) {
             text = "999*999*999*999*(0-7)/(pull-10)%(1-tight)";
         } else if (below(3) == 0) {
@@ -313,6 +327,7 @@ public final class ModelTest {
         text = worn(text, false);
         int n = feed(text);
         same("law(" + n + ") of " + text, () -> x.law(n), () -> m.law(n));
+        askTeam();
         same("fault", x::fault, m::fault);
     }
 
@@ -353,6 +368,7 @@ public final class ModelTest {
         String text = worn(b.toString(), false);
         int n = feed(text);
         same("work(" + n + ") of " + text, () -> x.work(n), () -> m.work(n));
+        askTeam();
         same("fault", x::fault, m::fault);
         if (below(2) == 0) {
             same("told 11", () -> x.told(11), () -> m.told(11));

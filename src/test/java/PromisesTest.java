@@ -352,6 +352,10 @@ public final class PromisesTest {
         lawFault("((((((least", -7, 6);
         lawFault("least[(((((((", -7, 11);
         lawFault("(((((( 1000 + (", -8, 7);
+        lawFault("least[most[least[most[least[most[least[1", -7, 33);
+        lawFault("least[1,least[1,least[1,least[1,least[1,least[1,(", -7, 48);
+        lawValue("least[9,least[9,least[9,least[9,least[9,least[9,8]]]]]]", 8);
+        lawValue("least[least[least[least[least[least[8,9],9],9],9],9],9]", 8);
     }
 
     // promise 5
@@ -484,6 +488,12 @@ public final class PromisesTest {
         workFault("rest;draw 0 10;", -8, 12);
         workFault("rest;again 61 [];", -8, 11);
         workFault("rest;rests;", -9, 5);
+        workFault("rest;restz;", -9, 5);
+        workFault("rest;arest;", -9, 5);
+        workFault("rest;rest`;", -9, 9);
+        workFault("rest;rest{;", -9, 9);
+        workFault("rest;out /;", -9, 9);
+        workFault("rest;out :;", -9, 9);
         workFault("rest;rest", -9, 9);
         workFault("rest;rest  ", -9, 11);
         workFault("rest;rest 1;", -9, 10);
@@ -683,6 +693,7 @@ public final class PromisesTest {
         String three = "feeling 1 0;feeling 1 0;stage 60 0;stage 60 0;stage 1 0;";
         FeltHarness z = told(three, "20-tired*5", "put 0 0;put 1 1;");
         due("until they are not", z.journey(), 1);
+        due("six", told("feeling 20 0;" + "stage 1 0;".repeat(6) + "bears 40;", "", "put 0 0;").journey(), 6);
         due("nobody", told(three).journey(), 0);
 
         promise = 17;
@@ -753,6 +764,26 @@ public final class PromisesTest {
         due("as tight as now", z.team(0, 0), 5);
         z.undo();
         due("behind undo", z.team(0, 0), 10);
+        house(z, "feeling 7 0;feeling 7 0;stage 9 0;");
+        due("behind house", z.team(0, 0), 24);
+        law(z, "9");
+        due("behind law", z.team(0, 0), 18);
+        law(z, "tight");
+        z.image();
+        due("ahead of work", z.team(0, 0), 10);
+        work(z, "draw 0 9;");
+        due("behind work", z.team(0, 0), 14);
+        work(z, "draw 0 8;");
+        due("behind work", z.team(0, 0), 13);
+        z.undo();
+        due("behind undo", z.team(0, 0), 14);
+        z.restore();
+        due("behind restore", z.team(0, 0), 10);
+        FeltHarness six = told("feeling 5 0;feeling 5 0;stage 60 0;stage 1 0;stage 1 1;stage 1 2;stage 1 3;stage 27 9;bears 9;");
+        due("the last stage", six.team(5, 0), 20);
+        due("the last stage", six.team(5, 1), 0);
+        due("the last stage", six.stands(5, 1), 1);
+        due("the first stage", six.team(0, 0), NONE);
         missing(z, "stands(1, 9)", () -> z.stands(1, 9));
         illegal(z, "stands(0, 4)", () -> z.stands(0, 4));
         illegal(z, "stands(0, -1)", () -> z.stands(0, -1));
@@ -764,6 +795,7 @@ public final class PromisesTest {
         promise = 20;
         String four = "feeling 1 0;feeling 1 0;feeling 1 0;feeling 1 0;";
         FeltHarness x = told(four + "clash 0 2;clash 2 3;clash 3 1;");
+        due("a stall, asked first", told(four + "clash 0 1;").stall(1), 1);
         due("stalls", x.stalls(), 2);
         due("none clash", told(four).stalls(), 1);
         due("no feelings", new FeltHarness().stalls(), 0);
@@ -800,6 +832,9 @@ public final class PromisesTest {
         due("not less", told("feeling 10 0;feeling 6 0;", "pull", "put 0 0;put 1 1;").swap(0), NONE);
         due("not less", told("feeling 10 0;feeling 6 0;", "pull", "put 0 0;put 1 1;").swap(1), NONE);
         FeltHarness u = told("feeling 10 0;feeling 10 0;", "pull-place", "put 0 0;put 1 3;");
+        FeltHarness others = told("feeling 3 0;feeling 5 0;", "pull*place", "put 0 1;put 1 2;");
+        due("others", others.swap(0), 12);
+        due("tilt by it", others.swap(1), 1);
         due("the first two of alike ones, on one side", u.swap(0), 2);
         due("tilt by it", u.swap(1), 1);
         due("nobody", told(TWO).swap(0), NONE);
@@ -962,6 +997,7 @@ public final class PromisesTest {
         due("behind, too", x.open(), 1);
         FeltHarness y = told(TWO, "", "put 0 0;put 1 1;");
         due("both", y.open(), 3);
+        due("by one alone", told("feeling 5 0;stage 9 9;stage 9 2;stage 30 0;", "", "put 0 1;").open(), 2);
 
         promise = 33;
         due("none", y.lost(), 0);

@@ -1443,7 +1443,9 @@ public final class FeltHarness {
                 tireTeam(slow + 1 + inn.turnOf(s) / 3);
                 row[BEHIND_AT]++;
             }
-            row[TALLY_AT + how]++;
+            if (within(how, STUCK, THROUGH)) {
+                row[TALLY_AT + how]++;
+            }
         }
 
         private void tireTeam(int more) {

@@ -1,22 +1,9 @@
-import java.nio.charset.StandardCharsets;
 import java.util.Arrays;
-import java.util.NoSuchElementException;
 
 /** Promise by promise: ordinary inputs, the edges that the document names, wrong inputs. All due answers are by hand. */
-public final class PromisesTest {
-    private interface Ask {
-        long answer();
-    }
-
-    private static final int NONE = FeltHarness.NONE;
+public final class PromisesTest extends Bench {
     private static final String INN = "feeling 10 2;feeling 8 0;feeling 20 9;feeling 5 3;feeling 1 5;"
             + "clash 0 2;clash 3 4;clash 2 0;stage 30 3;stage 60 9;stage 9 0;bears 14;";
-    /** Two that pull alike, a long straight stage and a short one that turns. */
-    private static final String TWO = "feeling 20 0;feeling 20 9;stage 60 0;stage 1 9;bears 40;";
-
-    private static int promise;
-    private static int asked;
-    private static int wrong;
 
     public static void main(String[] args) {
         newObjectFeedHouse();
@@ -42,94 +29,10 @@ public final class PromisesTest {
         seasons();
         images();
         statusAndCount();
-        System.out.println(asked + " answers by the promises, " + wrong + " wrong");
-        if (wrong != 0) {
-            System.exit(1);
-        }
+        finish("by the promises");
     }
 
-    // how it is asked
-
-    private static void due(String what, long got, long want) {
-        asked++;
-        if (got != want) {
-            wrong++;
-            System.out.println("promise " + promise + ": " + what + " answered " + got + ", due is " + want);
-        }
-    }
-
-    private static void refused(FeltHarness x, String what, Class<?> due, Ask ask) {
-        int kind = due == NoSuchElementException.class ? 0 : 1;
-        int before = x.status(kind);
-        int other = x.status(1 - kind);
-        asked++;
-        String got = "an answer";
-        try {
-            ask.answer();
-        } catch (RuntimeException e) {
-            got = e.getClass() == due ? "" : e.toString();
-        }
-        if (!got.isEmpty()) {
-            wrong++;
-            System.out.println("promise " + promise + ": " + what + " gave " + got + ", due is " + due.getSimpleName());
-        }
-        due(what + " counted", x.status(kind), before + 1);
-        due(what + " counted elsewhere", x.status(1 - kind), other);
-    }
-
-    private static void illegal(FeltHarness x, String what, Ask ask) {
-        refused(x, what, IllegalArgumentException.class, ask);
-    }
-
-    private static void missing(FeltHarness x, String what, Ask ask) {
-        refused(x, what, NoSuchElementException.class, ask);
-    }
-
-    private static int feed(FeltHarness x, String text) {
-        byte[] bytes = text.getBytes(StandardCharsets.ISO_8859_1);
-        byte[] padded = Arrays.copyOf(bytes, (bytes.length + 19) / 20 * 20);
-        for (int i = 0; i < padded.length; i += 20) {
-            int[] v = new int[5];
-            for (int j = 0; j < 20; j++) {
-                v[j / 4] = v[j / 4] << 8 | padded[i + j] & 255;
-            }
-            x.feed(v[0], v[1], v[2], v[3], v[4]);
-        }
-        return bytes.length;
-    }
-
-    private static int house(FeltHarness x, String text) {
-        return x.house(feed(x, text));
-    }
-
-    private static int law(FeltHarness x, String text) {
-        return x.law(feed(x, text));
-    }
-
-    private static int work(FeltHarness x, String text) {
-        return x.work(feed(x, text));
-    }
-
-    private static int book(FeltHarness x, String text) {
-        return x.book(feed(x, text));
-    }
-
-    private static FeltHarness told(String house) {
-        FeltHarness x = new FeltHarness();
-        if (house(x, house) < 0) {
-            due("house " + house, -1, 0);
-        }
-        return x;
-    }
-
-    private static FeltHarness told(String house, String law, String work) {
-        FeltHarness x = told(house);
-        due("law " + law, law.isEmpty() ? 1 : law(x, law), 1);
-        if (!work.isEmpty()) {
-            due("work " + work, work(x, work) >= 0 ? 1 : 0, 1);
-        }
-        return x;
-    }
+    // texts with faults
 
     private static void houseFault(String text, int answer, int place) {
         FeltHarness x = told(TWO);
@@ -172,7 +75,7 @@ public final class PromisesTest {
     // promises 1 to 3
 
     private static void newObjectFeedHouse() {
-        promise = 1;
+        promise(1);
         FeltHarness x = new FeltHarness();
         int[] first = {0, 0, 0, 0, 0, 0, 0, 0, 0, 0, 0, 0, 12};
         for (int i = 0; i < first.length; i++) {
@@ -183,7 +86,7 @@ public final class PromisesTest {
         due("status 1", x.status(1), 0);
         due("would", x.would(10, 0, 5, 8, 0, 0, 0, 0), 13);
 
-        promise = 2;
+        promise(2);
         x = new FeltHarness();
         due("feed", x.feed(0x62656172, 0x7320373b, 0x2020ff00, -1, 0x80000000), 20);
         due("house of 9 bytes", x.house(9), 0);
@@ -198,14 +101,14 @@ public final class PromisesTest {
         due("bytes", x.count(1), 600);
         due("house of 600 blanks", x.house(600), 0);
 
-        promise = 3;
+        promise(3);
         x = told(TWO);
         due("feelings", x.told(0), 2);
         due("stages", x.told(1), 2);
     }
 
     private static void houseFaults() {
-        promise = 3;
+        promise(3);
         FeltHarness x = new FeltHarness();
         x.feed(0x62656172, 0x7320373b, 0x2020ff00, -1, 0x80000000);
         illegal(x, "house(21)", () -> x.house(21));
@@ -280,7 +183,7 @@ public final class PromisesTest {
     // promise 4
 
     private static void lawValues() {
-        promise = 4;
+        promise(4);
         lawValue("2+3*4", 14);
         lawValue("20-5-3", 12);
         lawValue("100/7%4", 2);
@@ -361,7 +264,7 @@ public final class PromisesTest {
     // promise 5
 
     private static void workSteps() {
-        promise = 5;
+        promise(5);
         FeltHarness x = told(INN);
         due("put", work(x, "put 0 0;"), 1);
         due("at", x.at(0), 0);
@@ -521,7 +424,7 @@ public final class PromisesTest {
     // promises 6 and 7
 
     private static void bookAndFault() {
-        promise = 6;
+        promise(6);
         FeltHarness x = told(INN);
         due("book", book(x, " 4 999 ; 0 0;  "), 2);
         due("lines", x.told(10), 2);
@@ -544,7 +447,7 @@ public final class PromisesTest {
         bookFault("a 1;", -9, 0);
         bookFault("0 1,1 1;", -9, 3);
         bookFault(";", -9, 0);
-        promise = 7;
+        promise(7);
         FeltHarness y = told(TWO);
         due("without", y.fault(), NONE);
         law(y, "1+");
@@ -562,7 +465,7 @@ public final class PromisesTest {
     // promises 8 and 9
 
     private static void undoAndTold() {
-        promise = 8;
+        promise(8);
         FeltHarness x = told(TWO);
         due("none", x.undo(), -1);
         work(x, "put 0 0;put 1 1;");
@@ -582,7 +485,7 @@ public final class PromisesTest {
         due("nobody", x.told(4), 0);
         due("none", x.undo(), -1);
 
-        promise = 9;
+        promise(9);
         FeltHarness y = told(INN, "", "put 0 0;put 1 1;put 3 2;put 4 3;rest;home;");
         book(y, "0 1;1 1;");
         int[] all = {5, 3, 1, 0, 11, 38, 12, 0, 0, 0, 2, 2, 14};
@@ -605,7 +508,7 @@ public final class PromisesTest {
     // promises 10 to 14
 
     private static void feelingStageAtForce() {
-        promise = 10;
+        promise(10);
         FeltHarness x = told(INN, "", "put 2 3;put 1 0;draw 2 7;drive;");
         int[] two = {20, 9, 3, 4, 5, 1};
         for (int i = 0; i < two.length; i++) {
@@ -617,7 +520,7 @@ public final class PromisesTest {
         illegal(x, "feeling(0, 6)", () -> x.feeling(0, 6));
         illegal(x, "feeling(0, -1)", () -> x.feeling(0, -1));
 
-        promise = 11;
+        promise(11);
         FeltHarness y = told(TWO, "", "put 0 0;put 1 1;drive;");
         due("L", y.stage(1, 0), 1);
         due("T", y.stage(1, 1), 9);
@@ -628,14 +531,14 @@ public final class PromisesTest {
         illegal(y, "stage(0, 3)", () -> y.stage(0, 3));
         illegal(y, "stage(0, -1)", () -> y.stage(0, -1));
 
-        promise = 12;
+        promise(12);
         due("at 0", x.at(0), 1);
         due("at 1", x.at(1), NONE);
         due("at 3", x.at(3), 2);
         illegal(x, "at(4)", () -> x.at(4));
         illegal(x, "at(-1)", () -> x.at(-1));
 
-        promise = 13;
+        promise(13);
         law(x, "place*10+team");
         due("in the team", x.force(2, 0), 2);
         due("not in it", x.force(0, 3), 32);
@@ -647,7 +550,7 @@ public final class PromisesTest {
     }
 
     private static void wouldRanges() {
-        promise = 14;
+        promise(14);
         FeltHarness x = told(TWO, "pull+steady+tight+tired+place+stage+team+day-950-950", "");
         due("all at the most", x.would(20, 9, 9, 999, 3, 6, 4, 900), 50);
         due("all at the least", told(TWO, "pull+steady+tight+tired+place+stage+team+day", "")
@@ -669,7 +572,7 @@ public final class PromisesTest {
     // promises 15 to 17
 
     private static void comesJourneyWaits() {
-        promise = 15;
+        promise(15);
         FeltHarness x = told("feeling 20 0;stage 60 0;stage 9 9;stage 9 0;bears 30;", "", "");
         due("nobody", x.comes(0), NONE);
         work(x, "put 0 0;");
@@ -682,7 +585,7 @@ public final class PromisesTest {
         missing(x, "comes(3)", () -> x.comes(3));
         missing(x, "comes(-1)", () -> x.comes(-1));
 
-        promise = 16;
+        promise(16);
         FeltHarness y = told(TWO, "", "put 0 0;put 1 1;");
         due("both", y.journey(), 2);
         due("nothing stays changed", y.told(7) + y.told(3) + y.feeling(0, 4), 0);
@@ -696,7 +599,7 @@ public final class PromisesTest {
         due("six", told("feeling 20 0;" + "stage 1 0;".repeat(6) + "bears 40;", "", "put 0 0;").journey(), 6);
         due("nobody", told(three).journey(), 0);
 
-        promise = 17;
+        promise(17);
         due("now", z.waits(), 0);
         work(z, "drive;");
         due("one rest", z.waits(), 1);
@@ -723,7 +626,7 @@ public final class PromisesTest {
     // promises 18 and 19
 
     private static void teamStands() {
-        promise = 18;
+        promise(18);
         FeltHarness x = told(INN);
         due("strength", x.team(0, 0), 48);
         due("tilt", x.team(0, 1), 2);
@@ -741,7 +644,7 @@ public final class PromisesTest {
         illegal(y, "team(0, 2)", () -> y.team(0, 2));
         illegal(y, "team(0, -1)", () -> y.team(0, -1));
 
-        promise = 19;
+        promise(19);
         int[] who = {1, 2, 3, NONE};
         for (int p = 0; p < 4; p++) {
             due("stands 0, " + p, x.stands(0, p), who[p]);
@@ -792,7 +695,7 @@ public final class PromisesTest {
     // promises 20 to 22
 
     private static void stallsAndSwap() {
-        promise = 20;
+        promise(20);
         String four = "feeling 1 0;feeling 1 0;feeling 1 0;feeling 1 0;";
         FeltHarness x = told(four + "clash 0 2;clash 2 3;clash 3 1;");
         due("a stall, asked first", told(four + "clash 0 1;").stall(1), 1);
@@ -810,7 +713,7 @@ public final class PromisesTest {
         FeltHarness z = told(all.toString());
         due("all clash", z.stalls(), 8);
 
-        promise = 21;
+        promise(21);
         int[] path = {0, 1, 1, 0};
         int[] ring = {0, 0, 1, 2};
         for (int f = 0; f < 4; f++) {
@@ -821,7 +724,7 @@ public final class PromisesTest {
         missing(x, "stall(4)", () -> x.stall(4));
         missing(x, "stall(-1)", () -> x.stall(-1));
 
-        promise = 22;
+        promise(22);
         FeltHarness w = told("feeling 10 0;feeling 6 0;feeling 4 0;", "pull", "put 0 0;put 1 2;put 2 1;");
         due("which", w.swap(0), 1);
         due("tilt by it", w.swap(1), 0);
@@ -845,7 +748,7 @@ public final class PromisesTest {
     // promises 23 and 24
 
     private static void fitsAndLook() {
-        promise = 23;
+        promise(23);
         FeltHarness x = told(TWO, "", "put 0 0;put 1 1;drive;drive;home;rest;");
         due("all pairs", x.fits(0), 4);
         due("the first", x.fits(1), 0);
@@ -866,7 +769,7 @@ public final class PromisesTest {
         illegal(x, "fits(2)", () -> x.fits(2));
         illegal(x, "fits(-1)", () -> x.fits(-1));
 
-        promise = 24;
+        promise(24);
         FeltHarness z = told(TWO, "", "put 0 0;put 1 1;drive;drive;home;rest;");
         // How tired 0 is: 5 by two pairs, 8, 9; the same of 1: so two are left, and 0 is the first.
         due("whom", z.look(0), 0);
@@ -891,7 +794,7 @@ public final class PromisesTest {
     // promises 25 to 27
 
     private static void thumbAndSteady() {
-        promise = 25;
+        promise(25);
         FeltHarness x = new FeltHarness();
         int[][] due = {{5, 3, 2, 1, 5}, {3, 5, 1, 0, 10}, {0, 0, 4, 0, 0}, {9, 0, 3, 1, 9}, {7, 7, 3, 0, 14},
             {99, 99, 3, 0, 198}, {0, 99, 1, 0, 198}};
@@ -905,7 +808,7 @@ public final class PromisesTest {
             illegal(x, "thumb " + Arrays.toString(row), () -> x.thumb(row[0], row[1], row[2]));
         }
 
-        promise = 26;
+        promise(26);
         long[][] parts = {{2, 1, 8, 3, 4}, {1, 2, 8, 0, 1}, {0, 0, 0, 1, 1}, {0, 1, 3, 0, 1}, {12, 0, 7, 1, 1},
             {12, 12, 0, 1, 1}, {12, 1, 16, 0, 1}, {12, 13, 0, 0, 1}, {3, 2, 4, 27, 32}, {1, 1, 15, 1, 16},
             {12, 12, 15, 1, 281474976710656L}, {12, 3, 5, 281390298976281L, 281474976710656L}};
@@ -922,7 +825,7 @@ public final class PromisesTest {
     }
 
     private static void oats() {
-        promise = 27;
+        promise(27);
         // Tired 2, 4 and 10: by being stuck once, twice and five times.
         FeltHarness x = told("feeling 1 0;feeling 1 0;feeling 1 0;stage 60 0;", "0",
                 "put 0 0;put 1 1;put 2 2;drive;out 0;drive;out 1;again 3[drive;];");
@@ -946,7 +849,7 @@ public final class PromisesTest {
     private static void weariestToClashes() {
         FeltHarness x = told(INN, "0", "put 1 0;put 3 1;drive;draw 3 2;draw 1 2;");
         FeltHarness empty = new FeltHarness();
-        promise = 28;
+        promise(28);
         due("who", x.weariest(0), 1);
         due("how tired", x.weariest(1), 2);
         due("alike", told(INN).weariest(0), 0);
@@ -956,7 +859,7 @@ public final class PromisesTest {
         illegal(x, "weariest(2)", () -> x.weariest(2));
         illegal(x, "weariest(-1)", () -> x.weariest(-1));
 
-        promise = 29;
+        promise(29);
         due("alike", x.loosest(0), 1);
         due("how tight", x.loosest(1), 2);
         work(x, "draw 3 1;draw 0 0;");
@@ -967,14 +870,14 @@ public final class PromisesTest {
         illegal(x, "loosest(2)", () -> x.loosest(2));
         illegal(x, "loosest(-1)", () -> x.loosest(-1));
 
-        promise = 30;
+        promise(30);
         due("free", x.willing(2), 5);
         due("taken", x.willing(1), 0);
         due("all", told(INN).willing(3), 31);
         illegal(x, "willing(4)", () -> x.willing(4));
         illegal(x, "willing(-1)", () -> x.willing(-1));
 
-        promise = 31;
+        promise(31);
         due("twos", x.clashes(0), 2);
         due("alike", x.clashes(1), 0);
         FeltHarness y = told("feeling 1 0;feeling 1 0;feeling 1 0;clash 0 2;clash 1 2;");
@@ -988,7 +891,7 @@ public final class PromisesTest {
     // promises 32 to 38
 
     private static void openToLength() {
-        promise = 32;
+        promise(32);
         FeltHarness x = told(TWO + "stage 60 9;bears 8;", "", "");
         due("nobody", x.open(), 0);
         work(x, "put 0 0;put 1 1;");
@@ -999,7 +902,7 @@ public final class PromisesTest {
         due("both", y.open(), 3);
         due("by one alone", told("feeling 5 0;stage 9 9;stage 9 2;stage 30 0;", "", "put 0 1;").open(), 2);
 
-        promise = 33;
+        promise(33);
         due("none", y.lost(), 0);
         work(y, "draw 0 3;draw 1 4;");
         due("3 tight", y.lost(), 1);
@@ -1008,7 +911,7 @@ public final class PromisesTest {
         work(y, "out 0;");
         due("in the team only", y.lost(), 2);
 
-        promise = 34;
+        promise(34);
         FeltHarness z = told("feeling 1 2;feeling 1 2;stage 60 0;", "0", "put 0 0;put 1 1;again 10[drive;];out 1;");
         due("in the team", z.rested(0, 5), 15);
         due("in the stable", z.rested(1, 3), 5);
@@ -1020,14 +923,14 @@ public final class PromisesTest {
         illegal(z, "rested(0, 100)", () -> z.rested(0, 100));
         illegal(z, "rested(0, -1)", () -> z.rested(0, -1));
 
-        promise = 35;
+        promise(35);
         FeltHarness w = told(INN, "pull", "put 0 0;put 1 2;put 3 3;");
         due("near", w.side(0), 18);
         due("off", w.side(1), 5);
         illegal(w, "side(2)", () -> w.side(2));
         illegal(w, "side(-1)", () -> w.side(-1));
 
-        promise = 36;
+        promise(36);
         due("enough", w.needs(0), 0);
         work(w, "out 0;");
         due("not enough", w.needs(1), 8);
@@ -1036,13 +939,13 @@ public final class PromisesTest {
         missing(w, "needs(3)", () -> w.needs(3));
         missing(w, "needs(-1)", () -> w.needs(-1));
 
-        promise = 37;
+        promise(37);
         due("pairs", w.pairs(0), 26);
         due("pairs", w.pairs(1), 29);
         missing(w, "pairs(5)", () -> w.pairs(5));
         missing(w, "pairs(-1)", () -> w.pairs(-1));
 
-        promise = 38;
+        promise(38);
         FeltHarness v = told(TWO, "", "put 0 0;put 1 1;drive;");
         due("behind", v.length(0), 60);
         due("not behind", v.length(1), 1);
@@ -1053,7 +956,7 @@ public final class PromisesTest {
     // promises 39 and 40; by seed 1 there are drawn 16838, 5758, 10113, 17515, 31051, 5627, 23010, 7419, 16212, ..
 
     private static void seasons() {
-        promise = 39;
+        promise(39);
         FeltHarness x = told("feeling 20 0;stage 9 0;bears 40;");
         due("1 is below 2", x.season(1, 1, 2, 0), 1);
         due("who", x.season(1, 1, 2, 3), 1);
@@ -1082,7 +985,7 @@ public final class PromisesTest {
         }
         due("beyond 900", late.season(1, 3, 16, 0), 1);
 
-        promise = 40;
+        promise(40);
         int fewest = 999;
         int most = 0;
         int within = 0;
@@ -1106,7 +1009,7 @@ public final class PromisesTest {
     // promises 41 to 44
 
     private static void images() {
-        promise = 41;
+        promise(41);
         FeltHarness x = told(TWO, "", "put 0 0;put 1 1;");
         due("one", x.image(), 1);
         work(x, "drive;home;home;");
@@ -1117,7 +1020,7 @@ public final class PromisesTest {
         due("no more", x.image(), -1);
         due("images", x.count(0), 3);
 
-        promise = 42;
+        promise(42);
         x.undo();
         x.undo();
         law(x, "9");
@@ -1164,7 +1067,7 @@ public final class PromisesTest {
     }
 
     private static void statusAndCount() {
-        promise = 43;
+        promise(43);
         FeltHarness x = told(TWO);
         missing(x, "stage", () -> x.stage(9, 0));
         illegal(x, "told", () -> x.told(99));
@@ -1175,7 +1078,7 @@ public final class PromisesTest {
         house(x, TWO);
         due("a new house keeps it", x.status(0) + x.status(1), 2);
 
-        promise = 44;
+        promise(44);
         feed(x, "put 0 0;");
         x.image();
         due("images", x.count(0), 1);

@@ -13,6 +13,7 @@ public final class AskBoundsTest extends Bench {
         waits();
         teamWays();
         teamBest();
+        teamOfEachStage();
         stalls();
         swap();
         fits();
@@ -228,6 +229,24 @@ public final class AskBoundsTest extends Bench {
         team("a stage that is behind", behind, 9, 9, 0, NONE, NONE, NONE);
     }
 
+    private static void teamOfEachStage() {
+        says("TEAM of a STAGE");
+        // 9 and 3 pull: both are borne up to a turn of 6, and beyond it the lesser one alone.
+        String house = "feeling 9 0;feeling 3 0;stage 1 9;stage 1 6;stage 1 7;stage 60 0;stage 1 8;stage 1 5;";
+        int[][] due = {{3, 3, 1, NONE}, {12, 6, 0, 1}, {3, 3, 1, NONE}, {NONE, NONE, NONE, NONE}, {3, 3, 1, NONE}, {12, 6, 0, 1}};
+        FeltHarness all = told(house, "pull", "");
+        for (int s = 5; s >= 0; s--) {
+            due("strength in " + s, told(house, "pull", "").team(s, 0), due[s][0]);
+            due("tilt in " + s, told(house, "pull", "").team(s, 1), due[s][1]);
+            for (int p = 0; p < 4; p++) {
+                due("at " + p + " in " + s, told(house, "pull", "").stands(s, p), p < 2 ? due[s][2 + p] : NONE);
+                due("at " + p + " in " + s + ", all asked", all.stands(s, p), p < 2 ? due[s][2 + p] : NONE);
+            }
+            due("tilt in " + s + ", all asked", all.team(s, 1), due[s][1]);
+            due("strength in " + s + ", all asked", all.team(s, 0), due[s][0]);
+        }
+    }
+
     // stalls and swaps
 
     private static void stalls(String house, int many, int... which) {
@@ -313,6 +332,8 @@ public final class AskBoundsTest extends Bench {
         fits("the very last pair", x, "4 3;5 3;6 3;7 0;", 1, 57);
         fits("the one ahead of it", x, "4 3;5 3;6 0;7 3;", 1, 56);
         fits("one of each easy stage", x, "4 0;5 1;", 5, 4);
+        fits("by the last feeling alone", x, "7 3;", 3, 54);
+        fits("by the last feeling alone", x, "7 0;", 6, 7);
         fits("one in the stable that is not tired", x, "0 0;", 24, 4);
         fits("one in the stable that is", x, "0 1;", 0, NONE);
         fits("none", x, "4 4;", 0, NONE);
@@ -371,6 +392,15 @@ public final class AskBoundsTest extends Bench {
         FeltHarness stable = told("feeling 9 0;".repeat(3) + "stage 60 0;stage 1 0;bears 40;", "30", "put 1 0;put 2 1;");
         look("who is in the stable tells nothing", stable, "", 1, 2);
         look("all pairs are left by it", stable, "1 0;2 3;", 0, 1);
+        FeltHarness eight = told(EIGHT + "stage 60 0;stage 1 0;bears 40;", "30", "put 6 0;put 7 1;");
+        look("the last but one tells more than who is in the stable", eight, "", 6, 2);
+        look("the last", eight, "6 0;", 7, 1);
+        look("all but the last", eight, "0 0;1 0;2 0;3 0;4 0;5 0;6 0;", 7, 1);
+        look("all but the last but one", eight, "0 0;1 0;2 0;3 0;4 0;5 0;7 0;", 6, 1);
+        // All 24 pairs: it is out by 6, driven the long stage by 3, and one of the five short ones by 15, the last pair among them.
+        FeltHarness pairs = told(EIGHT + "stage 60 0;" + "stage 1 0;".repeat(5), "10", "put 4 0;put 5 1;put 6 2;put 7 3;");
+        look("all pairs there can be", pairs, "", 4, 15);
+        look("all", eight, "0 0;1 0;2 0;3 0;4 0;5 0;6 0;7 1;", NONE, NONE);
     }
 
     // ostler and thumb, habit, oats
@@ -533,8 +563,28 @@ public final class AskBoundsTest extends Bench {
             due("all are behind: home, by no drive", home.season(seed, 1, 16, 0), 0);
             FeltHarness loose = told("feeling 1 0;stage 1 0;bears 1;", "9", "draw 0 3;");
             due("spilt, and in the stable", loose.season(seed, 1, 16, 1) * 10 + loose.season(seed, 1, 16, 3), 10);
+            FeltHarness again = told("feeling 1 0;stage 1 0;bears 1;", "9", "draw 0 9;put 0 0;drive;out 0;");
+            due("spilt in it, not ahead of it", again.season(seed, 1, 16, 1), 1);
+            FeltHarness before = told("feeling 1 0;stage 1 0;bears 40;", "9", "put 0 0;drive;home;drive;home;out 0;");
+            due("through in it, not ahead of it", before.season(seed, 1, 16, 0), 1);
+            homeInSeason(seed);
             FeltHarness weak = told("feeling 1 0;stage 60 0;", "9", "put 0 0;drive;out 0;");
             due("stuck in it, not ahead of it", weak.season(seed, 1, 16, 2), 1);
+        }
+    }
+
+    /** One feeling is put on each odd day of a season and taken out on each even one, by whatever seed. */
+    private static void homeInSeason(int seed) {
+        FeltHarness one = told("feeling 1 0;stage 1 0;bears 40;", "9", "");
+        int[] throughOne = {1, 1, 2, 2, 3};
+        FeltHarness two = told("feeling 1 0;stage 1 0;stage 1 0;bears 40;", "9", "");
+        int[] throughTwo = {1, 1, 2, 2, 3};
+        FeltHarness late = told("feeling 1 0;stage 1 0;bears 40;", "9", "put 0 0;drive;out 0;");
+        int[] throughLate = {0, 0, 1, 1, 2};
+        for (int days = 1; days <= 5; days++) {
+            due("one stage, " + days + " days", one.season(seed, days, 16, 0), throughOne[days - 1]);
+            due("two stages, " + days + " days", two.season(seed, days, 16, 0), throughTwo[days - 1]);
+            due("all behind at first, " + days + " days", late.season(seed, days, 16, 0), throughLate[days - 1]);
         }
     }
 

@@ -25,6 +25,7 @@ public final class CallBoundsTest extends Bench {
         told11();
         argumentsOfOne();
         argumentsOfMany();
+        wouldOfEach();
         argumentsOfSeasons();
         noSuchGoesFirst();
         noneAtAll();
@@ -429,6 +430,30 @@ public final class CallBoundsTest extends Bench {
         bounds("rested", "ni", new int[] {0, 0}, new int[] {3, 99}, (x, v) -> x.rested(v[0], v[1]));
     }
 
+    private static void wouldOfEach() {
+        says("FORCE by the LAW for such pull (1 to 20), steady, tight (0 to 9 both), tired (0 to 999), place (0 to 3), "
+                + "stage (0 to 6), team (0 to 4), day (0 to 900).");
+        String[] names = {"pull", "steady", "tight", "tired", "place", "stage", "team", "day"};
+        int[] least = {1, 0, 0, 0, 0, 0, 0, 0};
+        int[] most = {20, 9, 9, 999, 3, 6, 4, 900};
+        for (int i = 0; i < names.length; i++) {
+            int[] low = with(most, i, least[i]);
+            int[] high = with(least, i, most[i]);
+            int over = Math.max(0, most[i] - 50);
+            FeltHarness x = readyWithLaw(names[i]);
+            due(names[i] + " at the least", x.would(low[0], low[1], low[2], low[3], low[4], low[5], low[6], low[7]), least[i]);
+            FeltHarness y = readyWithLaw(names[i] + "-" + over);
+            due(names[i] + " at the most", y.would(high[0], high[1], high[2], high[3], high[4], high[5], high[6], high[7]),
+                    most[i] - over);
+        }
+    }
+
+    private static FeltHarness readyWithLaw(String text) {
+        FeltHarness x = ready();
+        due("law " + text, law(x, text), 1);
+        return x;
+    }
+
     private static void argumentsOfSeasons() {
         int min = Integer.MIN_VALUE;
         int max = Integer.MAX_VALUE;
@@ -575,7 +600,6 @@ public final class CallBoundsTest extends Bench {
         due("no way", x.team(1, 0), NONE);
         due("no way", x.team(1, 1), NONE);
         says("The FEELING at a PLACE (0 to 3) by TEAM of a STAGE; NONE: none, or no way.");
-        due("the feeling", x.stands(0, 0), 0);
         for (int place = 0; place < 4; place++) {
             due("none, or the feeling", x.stands(0, place), place == 0 ? 0 : NONE);
             due("no way", x.stands(1, place), NONE);
@@ -701,6 +725,10 @@ public final class CallBoundsTest extends Bench {
         due("the least", y.loosest(0), 3);
         work(y, "draw 2 0;");
         due("0", y.loosest(0) * 10 + y.loosest(1), 20);
+        FeltHarness number0 = told(four, "0", "put 0 0;put 2 1;");
+        due("the first of all", number0.loosest(0), 0);
+        work(number0, "draw 2 4;");
+        due("not the first of all", number0.loosest(0), 2);
         says("FEELINGS (bits) that could be put to a PLACE (0 to 3) now.");
         due("all", told(four).willing(3), 15);
         FeltHarness z = told(four, "", "put 1 2;");

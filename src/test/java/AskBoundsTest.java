@@ -297,6 +297,8 @@ public final class AskBoundsTest extends Bench {
         swap("tilt is 0", told("feeling 4 0;feeling 4 0;", "pull", "put 0 0;put 1 1;"), NONE, NONE);
         swap("tilt is 0 by no force", told(two, "0", "put 0 0;put 1 2;"), NONE, NONE);
         swap("not less, but alike", told(two, "pull", "put 0 0;"), NONE, NONE);
+        swap("who is in the stable is in no place", told(two, "pull", "put 1 0;"), NONE, NONE);
+        swap("nor does it hide a swap", told("feeling 1 0;feeling 6 0;", "pull-place", "put 1 0;"), 3, 3);
         swap("not less, but more", told(two, "pull+place", "put 0 0;"), NONE, NONE);
         swap("less by one", told(two, "9-place/3", "put 0 0;"), 3, 8);
         swap("least of three", told(two, "9-place", "put 0 0;"), 3, 6);
@@ -400,6 +402,8 @@ public final class AskBoundsTest extends Bench {
         // All 24 pairs: it is out by 6, driven the long stage by 3, and one of the five short ones by 15, the last pair among them.
         FeltHarness pairs = told(EIGHT + "stage 60 0;" + "stage 1 0;".repeat(5), "10", "put 4 0;put 5 1;put 6 2;put 7 3;");
         look("all pairs there can be", pairs, "", 4, 15);
+        FeltHarness three = told("feeling 9 0;".repeat(3) + "stage 1 0;stage 1 0;", "6", "put 0 0;put 1 1;put 2 2;");
+        look("each is out by two pairs, and driven by four", three, "", 0, 4);
         look("all", eight, "0 0;1 0;2 0;3 0;4 0;5 0;6 0;7 1;", NONE, NONE);
     }
 

@@ -153,11 +153,13 @@ abstract class Bench {
         for (int i = 0; i <= 12; i++) {
             b.append(' ').append(x.told(i));
         }
-        for (int f = 0; f < x.told(0); f++) {
+        int feelings = x.told(0);
+        int stages = x.told(1);
+        for (int f = 0; f < feelings; f++) {
             b.append(" feeling ").append(x.feeling(f, 0)).append(' ').append(x.feeling(f, 1)).append(' ')
                     .append(x.feeling(f, 5));
         }
-        for (int s = 0; s < x.told(1); s++) {
+        for (int s = 0; s < stages; s++) {
             b.append(" stage ").append(x.stage(s, 0)).append(' ').append(x.stage(s, 1)).append(' ').append(x.stage(s, 2));
         }
         b.append(lawOf(x)).append(" book ").append(x.fits(0)).append(' ').append(x.fits(1)).append(' ');
@@ -184,7 +186,8 @@ abstract class Bench {
     static String workedOn(FeltHarness x) {
         StringBuilder b = new StringBuilder(" day ").append(x.told(2)).append(" behind ").append(x.told(3));
         b.append(" came ").append(x.told(7)).append(' ').append(x.told(8)).append(' ').append(x.told(9));
-        for (int f = 0; f < x.told(0); f++) {
+        int feelings = x.told(0);
+        for (int f = 0; f < feelings; f++) {
             b.append(" at ").append(x.feeling(f, 2)).append(' ').append(x.feeling(f, 3)).append(' ').append(x.feeling(f, 4));
         }
         return b.toString();

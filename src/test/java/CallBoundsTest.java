@@ -223,7 +223,9 @@ public final class CallBoundsTest extends Bench {
     }
 
     private static FeltHarness withWorks(int works) {
-        FeltHarness x = ready();
+        FeltHarness x = told(TWO, "pull+tired", "put 0 0;drive;");
+        x.image();
+        book(x, "1 0;");
         while (x.count(2) < works) {
             work(x, "rest;home;home;");
         }
@@ -246,6 +248,7 @@ public final class CallBoundsTest extends Bench {
         for (String text : new String[] {"rest;", "rest;xyz", "", "out 9;"}) {
             FeltHarness y = fullWithTape(text);
             due("a fault ahead of it", y.fault(), 2);
+            due("steps that the 16th refused", y.told(11), 2);
             due("a 17th " + text, y.work(text.length()), -20);
             due("no fault", y.fault(), NONE);
             due("the tape is empty", y.count(1), 0);

@@ -23,7 +23,7 @@ public final class ModelTest {
     }
 
     public static void main(String[] args) {
-        int runs = Integer.getInteger("runs", 400);
+        int runs = Integer.getInteger("runs", 500);
         int from = Integer.getInteger("from", 0);
         for (int i = from; i < from + runs && wrong < 20; i++) {
             new ModelTest(i).play();
@@ -83,7 +83,8 @@ public final class ModelTest {
         if (below(8) != 0) {
             tellHouse(false);
         }
-        while (calls < 480) {
+        // With what one turn and the end ask, an object stays within its 512 calls.
+        while (calls < 400) {
             one(below(70));
         }
         for (int i = -1; i <= 3; i++) {

@@ -400,6 +400,8 @@ public final class StepBoundsTest extends Bench {
             due("not who is in the stable", x.feeling(2, 4), 0);
             due("as tight as they were", x.feeling(0, 3), 5);
         }
+        due("a strength of 1 in a length of 1", told("feeling 1 0;stage 1 0;", "1", "put 0 0;drive;").feeling(0, 4), 2);
+        due("a strength of 1 in a length of 2", told("feeling 1 0;stage 2 0;", "1", "put 0 0;drive;").feeling(0, 4), 3);
     }
 
     private static FeltHarness tiredBy(int drives) {

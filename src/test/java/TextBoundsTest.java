@@ -569,10 +569,17 @@ public final class TextBoundsTest extends Bench {
         }
         faultyHouse(1, "^bear");
         faultyWork(1, "rest;^re");
-        FeltHarness x = ready();
-        feed(x, "bears 3;");
-        due("what stands on the tape behind the text is not read", x.house(7), -9);
-        due("fault", x.fault(), 7);
+        for (String behind : new String[] {";", " ", "   ;", "3", "x"}) {
+            FeltHarness x = ready();
+            feed(x, "bears 3" + behind);
+            due("what stands on the tape behind the text is not read: " + behind, x.house(7), -9);
+            due("fault", x.fault(), 7);
+            feed(x, "1+" + behind);
+            due("nor behind a law: " + behind, x.law(2), -9);
+            due("fault", x.fault(), 2);
+            feed(x, "1" + behind);
+            due("a law that ends ahead of it: " + behind, x.law(1), 1);
+        }
         says("2 a number that is none such (B of clash as A; an F twice in a BOOK)");
         faultyHouse(2, FEELING.repeat(2) + "clash 1 ^1;");
         faultyHouse(2, FEELING.repeat(2) + "clash 1 ^01;");

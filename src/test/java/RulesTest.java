@@ -13,16 +13,15 @@ import java.util.regex.Pattern;
 
 /** The face of the document and those rules of LANGUAGE.md that can be seen from outside. args[0]: the project. */
 public final class RulesTest {
-    private static final String FACE = "at/1 book/1 clashes/1 comes/1 count/1 fault/0 feed/5 feeling/2 fits/1 force/2 "
-            + "house/1 image/0 journey/0 law/1 length/1 look/1 loosest/1 lost/0 needs/1 oats/3 open/0 pairs/1 "
-            + "rested/2 restore/0 season/4 side/1 span/6 stage/2 stall/1 stalls/0 stands/2 status/1 steady/4 swap/1 "
-            + "team/2 thumb/3 told/1 undo/0 waits/0 weariest/1 willing/1 work/1 would/8";
     private static int wrong;
 
     public static void main(String[] args) throws Exception {
-        face();
+        String text = Files.readString(Path.of(args[0], "src/main/java/FeltHarness.java"));
+        String document = Files.readString(Path.of(args[0], "../shared/DOC.md"));
+        face(signatures(document, text));
+        promises(document);
         classes();
-        source(Files.readString(Path.of(args[0], "src/main/java/FeltHarness.java")));
+        source(text);
         System.out.println("the face and the rules, " + wrong + " wrong");
         if (wrong != 0) {
             System.exit(1);
@@ -36,7 +35,39 @@ public final class RulesTest {
         }
     }
 
-    private static void face() {
+    /** What the document's face tells stands in the class word for word, the exceptions too; name/parameters of each. */
+    private static TreeSet<String> signatures(String document, String text) {
+        String folded = text.replaceAll("\\s+", " ");
+        TreeSet<String> told = new TreeSet<>();
+        Matcher m = Pattern.compile("public (?:int|long) (\\w+)\\((.*)\\).*;").matcher(faceOf(document));
+        while (m.find()) {
+            told.add(m.group(1) + "/" + (m.group(2).isEmpty() ? 0 : m.group(2).split(",").length));
+            hold(folded.contains(m.group().replace(";", " {")), "told by the document: " + m.group());
+        }
+        hold(faceOf(document).contains("public static final int NONE = -1;") && FeltHarness.NONE == -1, "NONE");
+        return told;
+    }
+
+    private static String faceOf(String document) {
+        int from = document.indexOf("```java");
+        int to = document.indexOf("```", from + 7);
+        hold(from >= 0 && to > from, "the document tells a face");
+        return from < 0 || to < 0 ? "" : document.substring(from, to);
+    }
+
+    /** Each promise tells a call as the face does, so the face has all of them and no other. */
+    private static void promises(String document) {
+        Matcher m = Pattern.compile("## Promise (\\d+): ([^\n]*)\n\n`([^`]*)`").matcher(document);
+        int last = 0;
+        while (m.find()) {
+            last++;
+            hold(Integer.parseInt(m.group(1)) == last, "promise " + m.group(1) + " at " + last);
+            hold(faceOf(document).contains("public " + m.group(3) + ";"), "promise " + last + ": " + m.group(3));
+        }
+        hold(last == 44, "44 promises: " + last);
+    }
+
+    private static void face(TreeSet<String> told) {
         Class<?> c = FeltHarness.class;
         hold(Modifier.isPublic(c.getModifiers()) && Modifier.isFinal(c.getModifiers()), "a public final class");
         TreeSet<String> names = new TreeSet<>();
@@ -52,7 +83,7 @@ public final class RulesTest {
                 }
             }
         }
-        hold(open.equals(new TreeSet<>(Arrays.asList(FACE.split(" ")))), "the face: " + open);
+        hold(open.equals(told), "the face: " + open);
         hold(open.size() == 43, "43 methods: " + open.size());
         for (Class<?> n : all()) {
             for (Method m : n.getDeclaredMethods()) {
@@ -112,7 +143,22 @@ public final class RulesTest {
         for (char sign : text.toCharArray()) {
             hold(sign < 128, "the sign " + (int) sign);
         }
+        library(bare);
         methods(bare);
+    }
+
+    /** Of the library only what LANGUAGE.md lists; rows and parts are made by the constructor, and no call makes any. */
+    private static void library(String bare) {
+        Matcher m = Pattern.compile("\\b(Math|Integer|Long|System|Arrays|String|List)\\.(\\w+)").matcher(bare);
+        List<String> listed = List.of("Math.max", "Math.min", "Math.abs", "Integer.bitCount", "System.arraycopy");
+        while (m.find()) {
+            hold(listed.contains(m.group()), "the library's " + m.group());
+        }
+        for (String line : bare.split("\n")) {
+            if (line.matches(".*\\bnew\\b.*")) {
+                hold(line.matches(" +private final \\S+ \\w+ = new .*;| +throw new \\w+Exception\\(\"\"\\);"), "made by a call: " + line.trim());
+            }
+        }
     }
 
     /** A method stands from a line that opens it, two or one steps in, to the brace below its first letter. */

@@ -8,7 +8,7 @@ import java.util.List;
 import java.util.regex.Matcher;
 import java.util.regex.Pattern;
 
-/** All words of the document from "Terms" to the last promise are quoted by a test of bounds. args[0]: the project. */
+/** The document from "Terms" to the last promise is quoted by the tests of bounds, but for what APART and unquoted leave out. args[0]: the project. */
 public final class DocumentTest {
     private static final Pattern SAYS = Pattern.compile("\\bsays\\(((?:[\\s+]*\"(?:[^\"\\\\]|\\\\.)*\")+)\\s*\\);");
     private static final Pattern PIECE = Pattern.compile("\"((?:[^\"\\\\]|\\\\.)*)\"");
